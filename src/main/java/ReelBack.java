@@ -1331,7 +1331,6 @@ public final class ReelBack {
         private int hundredthsOf(Cost row, int k) {
             int text = acts.find(row.land * 10 + COUNTS, row.day, k);
             if (text < 0) {
-                line = -1;
                 return WITHOUT_ACT[COUNTS];
             }
             int[] facts = acts.facts;
@@ -1340,7 +1339,6 @@ public final class ReelBack {
             facts[2] = row.coinsBy(k);
             facts[3] = row.episode;
             facts[5] = isRelated(row, k) ? 1 : 0;
-            facts[Acts.LIVES] = 0;
             if (row.toHouse) {
                 facts[Acts.LIVES] = houses.landOf[row.who] == row.land ? 1 : 0;
             } else if (acts.asksHome[text]) {
@@ -1466,7 +1464,7 @@ public final class ReelBack {
             return size - 1;
         }
 
-        /** Deals the caps of years to those up to a certificate; answers all that this one gets. */
+        /** Deals the caps of years to those up to a certificate; later ones take nothing from it. Answers all it gets. */
         private int deal(int certificate, int lastYear, int k) {
             int land = landOf[certificate];
             for (int i = 0; i <= certificate; i++) {
@@ -1486,16 +1484,13 @@ public final class ReelBack {
 
         private int dealYear(int certificate, int land, int year) {
             int left = caps[land * YEARS + year];
-            int last = 0;
+            int gets = 0;
             for (int i = 0; i <= certificate; i++) {
-                last = 0;
-                if (landOf[i] == land && askedIn[i] <= year) {
-                    last = Math.min(wants[i], left);
-                    wants[i] -= last;
-                    left -= last;
-                }
+                gets = landOf[i] == land && askedIn[i] <= year ? Math.min(wants[i], left) : 0;
+                wants[i] -= gets;
+                left -= gets;
             }
-            return last;
+            return gets;
         }
 
         private int lend(int certificate, int coins, int rank) {
