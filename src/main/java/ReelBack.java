@@ -42,7 +42,6 @@ public final class ReelBack {
         claims = new Claims(houses, films, persons, prices, costs, acts);
         queue = new Queue(houses, films, claims);
         treaty = new Treaty(claims);
-        today = 0;
     }
 
     // ---- days, coins, houses, persons
@@ -1192,7 +1191,6 @@ public final class ReelBack {
             made[size] = day;
             from[size] = start;
             codes[size] = Arrays.copyOf(reader.codes, reader.size);
-            asksHome[size] = false;
             for (int i = 0; i < reader.size; i++) {
                 if (reader.codes[i] == -1 - LIVES) {
                     asksHome[size] = true;
@@ -1459,7 +1457,6 @@ public final class ReelBack {
             landOf[size] = land;
             askedIn[size] = day / YEAR_DAYS;
             advances[size] = NONE;
-            settled[size] = false;
             size++;
             return size - 1;
         }
@@ -1503,7 +1500,6 @@ public final class ReelBack {
             loanOn[loans] = certificate;
             loanCoins[loans] = coins;
             loanRank[loans] = rank;
-            loanPaid[loans] = 0;
             loans++;
             return loans - 1;
         }

@@ -407,6 +407,7 @@ public final class PromiseTest {
     private static void p17Of() {
         ReelBack x = studio();
         x.film(1, 9);
+        due("sold by the house that it was made for", x.sell(1, 0), 1);
         x.days(30);
         draft(x, 1, 8, 3, 20, 1, 777);
         x.set(6, 11);
@@ -456,6 +457,9 @@ public final class PromiseTest {
         due("no likes", x.span(0, 300, 2), NOT);
         due("how many", x.span(0, 300, 3), 0);
         x.like(4, 0, 60, 70);
+        due("the one is least", x.span(0, 300, 0), 70);
+        due("and greatest", x.span(0, 300, 1), 70);
+        due("and middle", x.span(0, 300, 2), 70);
         x.like(4, 0, 240, 90);
         x.like(4, 0, 59, 1);
         x.like(4, 0, 241, 99999);
@@ -497,6 +501,11 @@ public final class PromiseTest {
         draft(x, 0, 0, 0, 10, 0, 3);
         x.cost(3, 500);
         x.relate(0, 1);
+        x.like(7, 3, 10, 400);
+        draft(x, 0, 0, 3, 10, 1, 4);
+        x.set(6, 7);
+        x.cost(2, 500);
+        due("related, a like", x.counted(3, 10, 0), 400);
         due("related, no likes", x.counted(0, 10, 0), 0);
         due("a person's number is no house's", x.counted(1, 10, 0), 500);
         due("a house is not related to itself", x.counted(2, 10, 0), 500);
@@ -508,7 +517,7 @@ public final class PromiseTest {
         due("the film is another house's", x.counted(0, 10, 0), 500);
         x.relate(2, 1);
         due("and that is related, too", x.counted(0, 10, 0), 400);
-        due("no cost", x.counted(3, 10, 0), NONE);
+        due("no cost", x.counted(4, 10, 0), NONE);
         due("no cost", x.counted(-1, 10, 3), NONE);
         due("k", x.counted(0, 3600, 0), NONE);
         due("k", x.counted(0, -1, 0), NONE);
@@ -527,6 +536,7 @@ public final class PromiseTest {
         x.set(0, 1);
         x.set(2, 0);
         x.cost(1, 100);
+        due("a double of cost 0 alone", x.counted(2, 0, 1), 1);
         due("the first", x.counted(0, 0, 1), 0);
         due("the same film and land", x.counted(1, 0, 1), 0);
         due("another land", x.counted(2, 0, 1), 1);
@@ -554,6 +564,12 @@ public final class PromiseTest {
         x.cost(1, 333);
         due("333 * 1.999 = 665.667", x.counted(0, 400, 2), 665);
         due("no act, no line", x.counted(0, 400, 3), -1);
+        draft(x, 0, 1, 0, 380, 0, 7);
+        x.cost(4, 100);
+        make(x, 0, 0, "l*25");
+        due("by line 0", x.counted(0, 400, 3), 0);
+        due("lives in 1, not in 0", x.counted(0, 400, 2), 0);
+        due("lives in 0", x.counted(1, 400, 2), 49);
         make(x, 0, 0, "k=2?1;s=7&e=1?50;99");
         due("665 / 2 = 332.5", x.counted(0, 400, 2), 332);
         due("by line 1", x.counted(0, 400, 3), 1);
@@ -583,10 +599,13 @@ public final class PromiseTest {
         draft(x, 0, 0, 1, 380, 1, 2);
         x.cost(3, 200);
         make(x, 10, 0, "l*7+r");
-        due("a house of the land", x.counted(1, 401, 2), 14);
+        due("a house of the land", x.counted(2, 401, 2), 14);
         x.relate(1, 0);
         x.like(7, 1, 380, 300);
-        due("that is related, too", x.counted(1, 401, 2), 16);
+        due("that is related, too", x.counted(2, 401, 2), 16);
+        draft(x, 0, 0, 1, 380, 0, 3);
+        x.cost(3, 200);
+        due("a house of another land", x.counted(3, 401, 2), 0);
     }
 
     private static void p21Base() {
@@ -735,6 +754,8 @@ public final class PromiseTest {
         fault(x, "!!!!((((!", 8);
         fault(x, "\u00e9", 0);
         due("eight open", make(x, 0, 0, "!(!(!(!(1))))"), 0);
+        fault(new ReelBack(), "1?(((((((((1", 10);
+        due("eight open behind ?", make(new ReelBack(), 0, 0, "1?((((((((1))))))))"), 0);
         due("eight open, again and again", make(x, 0, 0, "!!!!!!!!1+((((((((1))))))))+!!!!!!!!s"), 1);
         due("one comparison in each", make(x, 0, 0, "1<2&2=3|(1>2)>3"), 2);
         due("six digits", make(x, 0, 0, "999999*000000"), 3);
@@ -780,6 +801,12 @@ public final class PromiseTest {
         due("ints that wrap", y.law(0, 0, 0, 0, 1), Math.max(0, Math.min(100, 999999 * 999999 * 999999 % 1000)));
         make(y, 1, 0, "999999*999999<0?61;62");
         due("ints that wrap", y.law(0, 0, 0, 0, 1), 999999 * 999999 < 0 ? 61 : 62);
+        StringBuilder longest = new StringBuilder("!1");
+        for (int i = 0; i < 79; i++) {
+            longest.append("+1");
+        }
+        make(y, 1, 0, longest.toString());
+        due("160 bytes of one sign each", y.law(0, 0, 0, 0, 1), 79);
         make(y, 1, 0, "1?0|5");
         due("all of E behind ?", y.law(0, 0, 0, 0, 1), 1);
         make(y, 1, 0, "0|5?7;9");
@@ -833,6 +860,13 @@ public final class PromiseTest {
         x.prove(0);
         due("points known by k", x.law(0, 0, 0, 2, 1), 9);
         due("other land", x.law(1, 0, 0, 2, 1), 30);
+        draft(x, 0, 1, 0, 0, 0, 1);
+        x.set(6, 3);
+        x.cost(1, 100);
+        make(x, 0, 0, "k+s+c+l+r+e");
+        due("names of COUNTS", x.base(0, 0, -1, 2, 0), 100);
+        make(x, 1, 0, "k+s+c+l+r+e");
+        due("are 0 in RATE", x.law(0, 0, 0, 2, 1), 0);
         due("land", x.law(6, 0, 0, 0, 1), NONE);
         due("film", x.law(0, 1, 0, 0, 1), NONE);
         due("d", x.law(0, 0, 3600, 0, 1), NONE);
@@ -939,7 +973,10 @@ public final class PromiseTest {
         x.cap(0, 9, 200);
         due("in the last year", x.foretold(1), 9);
         due("the other not changed", x.foretold(0), 2);
-        x.days(360);
+        x.days(1);
+        x.audit(0, 400);
+        due("180 as known today", x.foretold(0), 1);
+        x.days(359);
         int c = filmOf(x, 1, 1);
         x.ask(c, 1);
         due("nothing is due: the year of asking", x.foretold(2), 1);
@@ -983,6 +1020,11 @@ public final class PromiseTest {
         due("it is settled", x.advance(1), STATE);
         due("no certificate", x.advance(2), NONE);
         due("no certificate", x.advance(-1), NONE);
+        ReelBack w = studio();
+        w.ask(filmOf(w, 0, 1000), 0);
+        w.days(359);
+        w.audit(0, 500);
+        due("as known today", w.advance(0), 75);
         ReelBack y = studio();
         y.ask(0, 0);
         due("nothing is due", y.advance(0), 0);
@@ -1008,8 +1050,16 @@ public final class PromiseTest {
         ReelBack y = studio();
         int c = filmOf(y, 0, 100);
         y.ask(c, 0);
-        due("without an advance", y.settle(0), 30);
+        int d = filmOf(y, 1, 5);
+        y.ask(d, 1);
+        y.days(5);
+        y.cap(0, 0, 20);
+        y.audit(0, 10);
+        y.days(360);
+        due("27 as known today, of two years", y.settle(0), 27);
         due("then none", y.advance(0), STATE);
+        due("a single coin", y.settle(1), 1);
+        due("is paid", y.got(0), 28);
     }
 
     private static void p33Repaid() {
@@ -1040,10 +1090,38 @@ public final class PromiseTest {
         due("left of it", x.repaid(0, 1), 80);
         due("the house nothing", x.got(0), 0);
         leftOfMany();
+        singleCoins();
         due("loan 5", x.repaid(5, 0), NONE);
         due("loan -1", x.repaid(-1, 0), NONE);
         due("what 2", x.repaid(0, 2), NONE);
         due("what -1", x.repaid(0, -1), NONE);
+    }
+
+    private static void singleCoins() {
+        ReelBack x = studio();
+        int a = filmOf(x, 0, 10);
+        int b = filmOf(x, 0, 10);
+        x.ask(a, 0);
+        x.ask(b, 0);
+        x.loan(0, 0, 1, 0);
+        x.loan(1, 0, 1, 0);
+        x.loan(1, 0, 1, 0);
+        x.loan(0, 0, 2, 0);
+        due("one coin", x.advance(1), 1);
+        due("not of this certificate", x.repaid(0, 0), 0);
+        due("the earlier", x.repaid(1, 0), 1);
+        due("the later", x.repaid(2, 0), 0);
+        due("the house", x.got(0), 0);
+        // 1 for 1 and 2: rests 1 and 2 of 3
+        due("one coin", x.advance(0), 1);
+        due("the lesser rest", x.repaid(0, 0), 0);
+        due("the greater rest", x.repaid(3, 0), 1);
+        due("two coins", x.settle(1), 2);
+        due("what is left of the loans", x.repaid(2, 0), 1);
+        due("the house", x.got(0), 1);
+        due("two coins", x.settle(0), 2);
+        due("whole", x.repaid(0, 0), 1);
+        due("whole", x.repaid(3, 1), 0);
     }
 
     private static void leftOfMany() {
@@ -1104,8 +1182,15 @@ public final class PromiseTest {
         due("not the other", x.got(1), 0);
         x.sell(a, 1);
         x.settle(0);
+        int b = x.film(1, 1);
+        draft(x, b, 0, 0, 0, 0, 2);
+        x.cost(1, 20);
+        x.ask(b, 0);
+        due("of a film of house 1", x.advance(1), 3);
+        due("got by house 1", x.got(1), 153);
         due("what it got stays", x.got(0), 50);
-        due("the rest is the other's", x.got(1), 150);
+        due("the rest is the other's", x.got(1), 153);
+        due("all houses", x.count(12), 203);
     }
 
     private static void p35Move() {
@@ -1182,6 +1267,10 @@ public final class PromiseTest {
         x.move(1, 8);
         x.split(0, 40, 50);
         due("that one found none", x.moved(0), 0);
+        x.split(0, 10, 0);
+        due("the only land of both", x.moved(0), 3);
+        x.move(1, 8);
+        x.move(1, 8);
         due("one with a way", x.split(0, 9, 0), 0);
         due("of two costs", x.moved(1), 3);
         due("of two costs", x.moved(2), NONE);
@@ -1223,6 +1312,10 @@ public final class PromiseTest {
         due("at most", x.gain(0, 1, 55099, 33, 1), 360 - 220);
         due("the rate of the last day of year 0 is 30", x.gain(0, 0, 100100, 100, 0), 7000 - 2100);
         due("other land", x.gain(1, 1, 0, 0, 0), -15000);
+        make(x, 1, 719, "10");
+        due("the rate of the last day", x.gain(0, 1, 0, 0, 0), -110);
+        make(x, 1, 720, "1");
+        due("not of the day behind it", x.gain(0, 1, 0, 0, 0), -110);
         due("no costs", x.gain(0, 9, 50100, 100, 1), 0);
         due("land", x.gain(6, 0, 0, 0, 0), NO_VALUE);
         due("year", x.gain(0, 10, 0, 0, 0), NO_VALUE);
@@ -1240,6 +1333,12 @@ public final class PromiseTest {
         draft(x, 0, 0, 0, 0, 0, 1);
         x.cost(1, 100);
         x.cost(1, 1);
+        ReelBack y = studio();
+        draft(y, 0, 0, 0, 0, 0, 1);
+        y.cost(1, 100);
+        due("on day 0", y.audit(0, 40), 1);
+        due("it was", y.audit(0, 30), STATE);
+        due("coins", y.of(0, 4), 60);
         due("no cost", x.audit(2, 0), NONE);
         due("no cost", x.audit(-1, 0), NONE);
         due("coins -1", x.audit(0, -1), NONE);
@@ -1360,6 +1459,9 @@ public final class PromiseTest {
         due("the most of each", x.tryText(0), 110);
         make(x, 4, 0, "1");
         due("doubles", x.tryText(6), NONE);
+        x.days(9);
+        x.audit(1, 200);
+        due("as known today", x.tryText(0), 90);
         // twenty films of the most that one can get: 20 * 99999999 = 1999999980
         ReelBack y = studio();
         y.coin(0, 0, 99999);
@@ -1414,6 +1516,8 @@ public final class PromiseTest {
         // numbers 0 .. 5 have kinds 1 .. 6 and 100 .. 600 coins; x is 7
         due("wage spends", x.act(0, 0, 7), 107);
         due("wage counts", x.act(0, 1, 7), 214 ^ 9);
+        due("bits that are there go", x.act(0, 1, 4), 208 + 9);
+        due("bits that are there go", x.act(0, 1, 8), 216 - 8 + 1);
         due("wage proves", x.act(0, 2, 7), 214 ^ 9);
         due("goods spends", x.act(1, 0, 7), 203);
         due("goods counts", x.act(1, 1, 7), 406);
@@ -1435,6 +1539,7 @@ public final class PromiseTest {
         due("no cost", x.act(-1, 0, 0), NO_VALUE);
         due("act 3", x.act(0, 3, 0), NO_VALUE);
         due("act -1", x.act(0, -1, 0), NO_VALUE);
+        x.days(3);
         x.audit(0, 60);
         due("coins as known today", x.act(0, 0, 7), 47);
     }
