@@ -1074,7 +1074,7 @@ public final class ReelBack {
             size = 0;
             sound = true;
             readLine();
-            while (sound && next() == ';') {
+            while (sound && at < tapeSize && tape[at] == ';') {
                 at++;
                 readLine();
             }
@@ -1109,8 +1109,8 @@ public final class ReelBack {
                 return;
             }
             readPart(level + 1, open);
-            while (sound && isSign(next(), level)) {
-                int sign = next();
+            while (sound && at < tapeSize && isSign(tape[at], level)) {
+                int sign = tape[at];
                 at++;
                 readPart(level + 1, open);
                 put(-sign);
