@@ -388,10 +388,12 @@ public final class ReelBack {
         if (!isLand(land) || !within(year, 0, YEARS - 1) || !within(tax, 0, 100) || !within(what, 0, 1)) {
             return NO_VALUE;
         }
-        if (ab < 0 || ab / 1000 > ab % 1000 || ab % 1000 > 100) {
+        int a = ab / 1000;
+        int b = ab % 1000;
+        if (!within(a, 0, 100) || !within(b, 0, 100)) {
             return NO_VALUE;
         }
-        return claims.gainOf(land, year, what == 0 ? ab / 1000 : ab % 1000, tax, today);
+        return claims.gainOf(land, year, what == 0 ? a : b, tax, today);
     }
 
     public int audit(int cost, int coins) {

@@ -760,7 +760,7 @@ public final class ModelTest {
         int gain(int land, int year, int ab, int tax, int what) {
             int a = ab / 1000;
             int b = ab % 1000;
-            if (!land(land) || !in(year, 0, 9) || ab < 0 || a > 100 || b > 100 || a > b) return NO_VALUE;
+            if (!land(land) || !in(year, 0, 9) || ab < 0 || a > 100 || b > 100) return NO_VALUE;
             if (!in(tax, 0, 100) || !in(what, 0, 1)) return NO_VALUE;
             long spent = 0;
             long back = 0;
