@@ -10,6 +10,8 @@ final class AnswerEdges extends Edges {
     }
 
     static void all() {
+        chapter("What it is");
+        used();
         chapter("Answers");
         firstNamed();
         numbersOfAnswers();
@@ -21,6 +23,20 @@ final class AnswerEdges extends Edges {
         refusedWhenFull();
         askingChangesNothing();
         ownMemory();
+    }
+
+    private static void used() {
+        edge("An object is used for at most 512 calls after it has been made; what later calls answer is free.", () -> {
+            ReelBack x = studio();
+            for (int call = 6; call <= 511; call++) {
+                due("call " + call, x.days(1), call - 5);
+            }
+            due("call 512", x.count(3), 506);
+            ReelBack y = studio();
+            for (int call = 6; call <= 512; call++) {
+                due("call " + call, y.person(6), NONE);
+            }
+        });
     }
 
     // ---- worlds

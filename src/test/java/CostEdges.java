@@ -282,6 +282,12 @@ final class CostEdges extends Edges {
             due("FAIR", x.counted(0, 200, 0), 0);
             due("COUNTED", x.counted(0, 200, 2), 0);
             due("by no LINE", x.counted(0, 200, 3), -1);
+            x.like(7, 0, 200, 30);
+            draft(x, 0, 0, 200, 2);
+            x.set(6, 7);
+            x.cost(2, 50);
+            due("there is one of SORT 7", x.counted(1, 200, 0), 30);
+            due("none of SORT 0 behind it", x.counted(0, 200, 0), 0);
         });
     }
 
@@ -307,6 +313,19 @@ final class CostEdges extends Edges {
             for (int i = 0; i < later.length; i++) {
                 due("whether " + i + " is a later one", x.counted(i, 200, 1), later[i]);
             }
+        });
+        edge("DOUBLE: two COSTS with one RECEIPT, of unlike FILMS or LANDS", () -> {
+            ReelBack x = town();
+            draft(x, 0, 0, 0, 0);
+            x.cost(1, 5);
+            x.set(0, 1);
+            x.cost(1, 5);
+            x.set(0, 0);
+            x.cost(1, 5);
+            due("0 and 1, 1 and 2", x.twice(0), 2);
+            due("later than 0", x.counted(1, 200, 1), 1);
+            due("like 0, later than 1", x.counted(2, 200, 1), 1);
+            due("the first", x.counted(0, 200, 1), 0);
         });
         edge("just the first one (by number) counts in a LAND's claim, if the act of DOUBLES says so (see 3)", () -> {
             ReelBack x = town();

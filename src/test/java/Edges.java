@@ -29,7 +29,7 @@ class Edges {
 
     // ---- the document
 
-    /** Takes the chapters whose words are to be named: the six parts of the terms, the answers, the promises. */
+    /** Takes the chapters whose words are to be named: how long an object is used, terms, answers, promises. */
     static void readDocument() throws IOException {
         String doc = Files.readString(DOC).replace("```text", " ").replace("```", " ");
         for (String part : doc.split("\n## ")) {
@@ -39,6 +39,8 @@ class Edges {
                 keep(title.substring(0, title.indexOf(':')), body.substring(body.indexOf("`:") + 2));
             } else if (title.equals("Terms")) {
                 readTerms(body);
+            } else if (title.equals("What it is")) {
+                keep(title, body.substring(body.indexOf("An object is used")));
             }
         }
     }

@@ -113,6 +113,21 @@ final class QueueEdges extends Edges {
                 due("its rest", x.given(0, 1), 300 - Math.min(300, caps[i]));
             }
         });
+        edge("as far as the YEAR's CAP goes", () -> {
+            ReelBack x = studio();
+            certificate(x, 0, 1000);
+            x.cap(0, 0, 1000);
+            x.cap(0, 1, 10);
+            x.days(360);
+            certificate(x, 0, 1000);
+            due("YEAR 0", x.given(0, 0), 300);
+            due("what YEAR 0 left is not YEAR 1's", x.given(1, 1), 10);
+            x.advance(0);
+            x.advance(1);
+            x.settle(0);
+            due("SETTLED, as before", x.given(0, -1), 300);
+            due("with an ADVANCE, as before", x.given(1, -1), 10);
+        });
         edge("who is not given all waits for the next YEAR, ahead of later ones", () -> {
             ReelBack x = studio();
             certificate(x, 0, 1000);

@@ -131,6 +131,8 @@ final class TextEdges extends Edges {
             feed(x, "12" + "+1".repeat(79));
             due("of 160", x.text(3, 0), 0);
             due("all of it", x.law(0, 0, 0, 0, 3), 12 + 79);
+            make(x, 3, 0, "!k" + "+n".repeat(79));
+            due("of 160, each a sign of its own", x.law(0, 0, 0, 0, 3), 1 + 2 * 79);
         });
         edge("LINES, one or more, parted by ;", () -> {
             faultAt("", 0);
@@ -442,6 +444,13 @@ final class TextEdges extends Edges {
             lineOf("1?0;50", 0, 0);
             lineOf("0;50", 0, 0);
             lineOf("0?1;".repeat(39) + "9", 39, 9);
+            doublesBy("0?1", 0);
+            doublesBy("0?1;1", 100);
+            for (int use = 1; use <= 3; use++) {
+                ReelBack x = studio();
+                make(x, use, 0, "0?1;n=3?2");
+                due("none for USE " + use, x.law(0, 0, 0, 0, use), 0);
+            }
         });
     }
 

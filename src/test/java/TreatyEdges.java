@@ -260,6 +260,13 @@ final class TreatyEdges extends Edges {
             due("whatever NEED and TOP are", x.gain(0, 0, 0, 0, 0), -30);
             due("at least", x.gain(0, 0, 10050, 50, 0), 10 - 30);
             due("at most", x.gain(0, 0, 10050, 50, 1), 53 - 30);
+            ReelBack w = studio();
+            years(w, 4);
+            wage(w, 0, 0, 100);
+            make(w, 1, 1799, "10");
+            due("of YEAR 4's last DAY", w.gain(0, 4, 0, 0, 0), -10);
+            make(w, 1, 1800, "20");
+            due("not of YEAR 5's first", w.gain(0, 4, 0, 0, 0), -10);
             ReelBack y = rates(100);
             y.coin(0, 0, 99999);
             wages(y, 0, 0, 99999, 150);
