@@ -896,11 +896,15 @@ public final class ReelBack {
 
         private boolean isLaterDouble(Cost row) {
             for (int i = 0; i < row.number; i++) {
-                if (rows[i].isTwiceWith(row)) {
+                if (areTwice(at(i), row)) {
                     return true;
                 }
             }
             return false;
+        }
+
+        private static boolean areTwice(Cost a, Cost b) {
+            return a != null && b != null && a.isTwiceWith(b);
         }
 
         /** How many twos, or a cost of the first two. */
@@ -910,7 +914,7 @@ public final class ReelBack {
             int second = NOT;
             for (int i = 0; i < size; i++) {
                 for (int j = i + 1; j < size; j++) {
-                    if (rows[i].isTwiceWith(rows[j])) {
+                    if (areTwice(at(i), at(j))) {
                         if (n == 0) {
                             first = i;
                             second = j;
@@ -935,10 +939,16 @@ public final class ReelBack {
             return auditedOnes;
         }
 
+        /** Whether a cost is the film's, and was not audited. */
+        private boolean isOpen(int cost, int film) {
+            Cost row = at(cost);
+            return row != null && row.film == film && row.auditedOn < 0;
+        }
+
         private int drawOf(int film) {
             int open = 0;
             for (int i = 0; i < size; i++) {
-                if (rows[i].film == film && rows[i].auditedOn < 0) {
+                if (isOpen(i, film)) {
                     open++;
                 }
             }
@@ -948,7 +958,7 @@ public final class ReelBack {
             z = z * 1103515245 + 12345;
             int left = (z >>> 8) % open;
             for (int i = 0; i < size; i++) {
-                if (rows[i].film == film && rows[i].auditedOn < 0) {
+                if (isOpen(i, film)) {
                     if (left == 0) {
                         return i;
                     }
@@ -963,8 +973,9 @@ public final class ReelBack {
             int drawn = 0;
             int wrong = 0;
             for (int i = 0; i < size; i++) {
-                if (rows[i].film == film) {
-                    int state = rows[i].audited();
+                Cost row = at(i);
+                if (row != null && row.film == film) {
+                    int state = row.audited();
                     n++;
                     drawn += state > 0 ? 1 : 0;
                     wrong += state > 1 ? 1 : 0;
@@ -1217,10 +1228,10 @@ public final class ReelBack {
 
         /** Works the text out with the facts; its line is left behind. */
         private int run(int text) {
-            int[] code = codes[text];
+            int[] code = has(text) ? codes[text] : null;
             line = 0;
             held = 0;
-            for (int i = 0; i < code.length; i++) {
+            for (int i = 0; code != null && i < code.length; i++) {
                 int c = code[i];
                 if (c >= 0) {
                     push(c);
@@ -1377,10 +1388,12 @@ public final class ReelBack {
         private int baseOf(int film, int land, int episode, int year, int k) {
             long sum = 0;
             for (int i = 0; i < costs.size; i++) {
-                Cost row = costs.rows[i];
-                boolean there = row.film == film && row.land == land;
+                Cost row = costs.at(i);
+                if (row == null || row.film != film || row.land != land) {
+                    continue;
+                }
                 boolean then = year == ALL || row.day / YEAR_DAYS == year;
-                if (there && then && (episode == ALL || row.episode == episode)) {
+                if (then && (episode == ALL || row.episode == episode)) {
                     sum += countedOf(row, k);
                 }
             }
