@@ -540,6 +540,10 @@ public final class ReelBack {
             return house >= 0 && house < size;
         }
 
+        private boolean isIn(int house, int land) {
+            return has(house) && landOf[house] == land;
+        }
+
         private int add(int land) {
             if (size >= MOST) {
                 return FULL;
@@ -685,6 +689,9 @@ public final class ReelBack {
         }
 
         private boolean livesIn(int person, int land, int d, int k) {
+            if (!has(person)) {
+                return false;
+            }
             int first = d - YEAR_DAYS + 1;
             Arrays.fill(landAt, homeOf[person]);
             // a later telling goes over an earlier one
@@ -871,10 +878,14 @@ public final class ReelBack {
         private int ran;
         private int z = 1;
 
+        private static int aboveOf(int kind) {
+            return kind >= 0 && kind < KINDS ? ABOVE[kind] : -1;
+        }
+
         private static boolean isUnder(int kind, int k) {
             int at = kind;
-            while (at > k && at < KINDS) {
-                at = ABOVE[at];
+            for (int up = 0; up < KINDS && at > k; up++) {
+                at = aboveOf(at);
             }
             return at == k;
         }
@@ -1014,16 +1025,23 @@ public final class ReelBack {
             return ways;
         }
 
-        private int bodyOf(int act, int kind) {
-            return kind < 0 ? 0 : BODIES[act * KINDS + kind];
+        private static int bodyOf(int act, int kind) {
+            int i = act * KINDS + kind;
+            return kind >= 0 && kind < KINDS && i >= 0 && i < BODIES.length ? BODIES[i] : 0;
+        }
+
+        /** The kind itself, or the next above that has a body of the act. */
+        private static int kindWithBody(int act, int from) {
+            int kind = from;
+            for (int up = 0; up < KINDS && kind > 0 && bodyOf(act, kind) == 0; up++) {
+                kind = aboveOf(kind);
+            }
+            return kind;
         }
 
         /** Runs the act's body of a kind, or of the next above that has one. */
         private int perform(Cost row, int act, int from, int x, int c, int depth) {
-            int kind = from;
-            while (kind > 0 && bodyOf(act, kind) == 0) {
-                kind = ABOVE[kind];
-            }
+            int kind = kindWithBody(act, from);
             if (kind < 0 || depth > DEEPEST) {
                 return 0;
             }
@@ -1032,7 +1050,7 @@ public final class ReelBack {
                 bodies[ran] = body;
                 ran++;
             }
-            int above = ABOVE[kind];
+            int above = aboveOf(kind);
             int deep = depth + 1;
             switch (body) {
                 case 10: return x + c;
@@ -1317,7 +1335,7 @@ public final class ReelBack {
         }
 
         private boolean isRelated(Cost row, int k) {
-            return row.toHouse && houses.areRelatedBy(row.who, films.houseOf[row.film], k);
+            return row.toHouse && films.has(row.film) && houses.areRelatedBy(row.who, films.houseOf[row.film], k);
         }
 
         private int fairOf(Cost row, int k) {
@@ -1351,7 +1369,7 @@ public final class ReelBack {
             facts[3] = row.episode;
             facts[5] = isRelated(row, k) ? 1 : 0;
             if (row.toHouse) {
-                facts[Acts.LIVES] = houses.landOf[row.who] == row.land ? 1 : 0;
+                facts[Acts.LIVES] = houses.isIn(row.who, row.land) ? 1 : 0;
             } else if (acts.asksHome[text]) {
                 // a year of days is looked at: only where the text asks
                 facts[Acts.LIVES] = persons.livesIn(row.who, row.land, row.day, k) ? 1 : 0;
@@ -1540,7 +1558,10 @@ public final class ReelBack {
             for (int rank = 0; rank < RANKS; rank++) {
                 left = repay(certificate, rank, left);
             }
-            houses.pay(films.houseOf[filmOf[certificate]], left);
+            int film = filmOf[certificate];
+            if (films.has(film)) {
+                houses.pay(films.houseOf[film], left);
+            }
         }
 
         private boolean isOf(int loan, int certificate, int rank) {
