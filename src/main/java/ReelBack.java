@@ -747,7 +747,8 @@ public final class ReelBack {
             int worth = 1000;
             int latest = -1;
             int start = land * COINS_OF_A_LAND;
-            for (int i = start; i < start + coinsTold[land]; i++) {
+            int told = isLand(land) ? coinsTold[land] : 0;
+            for (int i = start; i < start + told; i++) {
                 if (coinFrom[i] <= day && coinFrom[i] >= latest) {
                     latest = coinFrom[i];
                     worth = coinWorth[i];
@@ -1383,8 +1384,8 @@ public final class ReelBack {
         private void putFilmFacts(int film, int land, int d, int k) {
             acts.facts[6] = d / YEAR_DAYS;
             acts.facts[7] = films.pointsBy(film, land, k);
-            acts.facts[8] = films.episodesOf[film];
-            acts.facts[9] = Integer.bitCount(costs.landsOf[film]);
+            acts.facts[8] = films.has(film) ? films.episodesOf[film] : 0;
+            acts.facts[9] = films.has(film) ? Integer.bitCount(costs.landsOf[film]) : 0;
         }
 
         /** What an act of a land, but for COUNTS, says of a film. */
